@@ -539,53 +539,70 @@ public final class SnowbolFold {
         }
     }
 
-    /** Values, each a row of signs up to a width. */
+    /** Values, each a row of signs up to a width; a row that it does not have is empty and takes nothing. */
     private static final class Rows {
-        private final int rows;
         private final int width;
-        private final Cells signs;
-        private final Cells sizes;
+        private final int[] signs;
+        private final int[] sizes;
 
         Rows(int rows, int width) {
-            this.rows = rows;
             this.width = width;
-            signs = new Cells(rows * width);
-            sizes = new Cells(rows);
+            signs = new int[rows < 0 || width < 0 ? 0 : rows * width];
+            sizes = new int[rows < 0 ? 0 : rows];
         }
 
         int length(int row) {
-            return sizes.get(row);
+            return row >= 0 && row < sizes.length ? sizes[row] : 0;
         }
 
         boolean holds(int row, int place) {
-            return place >= 0 && place < sizes.get(row);
+            return row >= 0 && row < sizes.length && place >= 0 && place < sizes[row];
         }
 
         int sign(int row, int place) {
-            return holds(row, place) ? signs.get(row * width + place) : NONE;
+            if (row < 0 || row >= sizes.length || place < 0 || place >= sizes[row]) {
+                return NONE;
+            }
+            int index = row * width + place;
+            return index >= 0 && index < signs.length ? signs[index] : NONE;
         }
 
         void clear(int row) {
-            sizes.put(row, 0);
+            if (row >= 0 && row < sizes.length) {
+                sizes[row] = 0;
+            }
         }
 
         boolean add(int row, int sign) {
-            int length = sizes.get(row);
-            if (length >= width) {
+            if (row < 0 || row >= sizes.length || sizes[row] >= width) {
                 return false;
             }
-            signs.put(row * width + length, sign);
-            sizes.put(row, length + 1);
+            int index = row * width + sizes[row];
+            if (index < 0 || index >= signs.length) {
+                return false;
+            }
+            signs[index] = sign;
+            sizes[row]++;
             return true;
         }
 
-        /** Adds the signs of another row from a place up to an end; answers whether they all had room. */
+        /** Adds the signs of another row from a place up to an end, if they all have room; answers whether so. */
         boolean append(int row, Rows other, int otherRow, int from, int end) {
-            for (int place = from; place < end; place++) {
-                if (!add(row, other.sign(otherRow, place))) {
+            int count = end - from;
+            if (row < 0 || row >= sizes.length || count < 0 || count > width - sizes[row]) {
+                return false;
+            }
+            int target = row * width + sizes[row];
+            int source = otherRow * other.width + from;
+            for (int step = 0; step < count; step++) {
+                int to = target + step;
+                int at = source + step;
+                if (to < 0 || to >= signs.length || at < 0 || at >= other.signs.length) {
                     return false;
                 }
+                signs[to] = other.signs[at];
             }
+            sizes[row] += count;
             return true;
         }
 
@@ -595,19 +612,23 @@ public final class SnowbolFold {
 
         void copy(int row, Rows other, int otherRow) {
             clear(row);
-            appendAll(row, other, otherRow);
+            append(row, other, otherRow, 0, other.length(otherRow));
         }
 
         void copyAll(Rows other) {
-            for (int row = 0; row < rows; row++) {
+            for (int row = 0; row < sizes.length; row++) {
                 copy(row, other, row);
             }
         }
 
         boolean contains(int row, int sign) {
-            int length = length(row);
-            for (int place = 0; place < length; place++) {
-                if (sign(row, place) == sign) {
+            if (row < 0 || row >= sizes.length) {
+                return false;
+            }
+            int start = row * width;
+            for (int place = 0; place < sizes[row]; place++) {
+                int index = start + place;
+                if (index >= 0 && index < signs.length && signs[index] == sign) {
                     return true;
                 }
             }
@@ -623,10 +644,6 @@ public final class SnowbolFold {
                 }
             }
             return true;
-        }
-
-        boolean isSame(int row, int otherRow) {
-            return length(row) == length(otherRow) && hasThere(row, 0, this, otherRow);
         }
 
         /** The number that a row is, or NO_NUMBER. */
@@ -692,23 +709,11 @@ public final class SnowbolFold {
             count++;
             return number;
         }
-
-        int kind(int number) {
-            return kinds.get(number);
-        }
-
-        int first(int number) {
-            return firsts.get(number);
-        }
-
-        int second(int number) {
-            return seconds.get(number);
-        }
     }
 
     /**
      * Finds the ways of a pattern one after the other. What is still to be done behind a pattern stands in
-     * nodes that point to the next one; what can be gone back over stands in a stack of choices. What a node
+     * nodes that point to the next one; what can be gone back over stands in a pile of choices. What a node
      * or a choice means is told by the kind of the pattern that made it.
      */
     private static final class Matcher {
@@ -716,12 +721,16 @@ public final class SnowbolFold {
         static final int ENDED = 2;
         static final int TOO_MANY = 3;
         private static final int BEGIN = 4;
-        private static final int GO_ON = 5;
-        private static final int BACK = 6;
+        private static final int SINGLE = 5;
+        private static final int BALANCE = 6;
+        /** A choice is left open, then it goes on. */
+        private static final int LEAVE_OPEN = 7;
+        private static final int GO_ON = 8;
+        private static final int BACK = 9;
         /** A pattern that is begun makes a node and a choice at most, and one of each more as it is repeated. */
         private static final int ROOM = 2 * MOST_BEGUN;
         /** Between two patterns begun there are at most some fifty nodes, one for each pattern around. */
-        private static final int MOST_TURNS = 1000000;
+        private static final int MOST_TURNS = 10000000;
 
         private final Book patterns;
         private final Rows texts;
@@ -731,12 +740,14 @@ public final class SnowbolFold {
         private final Pile choices = new Pile(ROOM);
         /** How much was taken as each choice was left open. */
         private final Cells takenThen = new Cells(ROOM);
+        /** What '.' took: the variable, and where it begins and ends. */
         private final Pile taken = new Pile(MOST_BEGUN);
         private int top;
         private boolean onlyFirst;
         private int length;
         private int start;
         private int begunCount;
+        /** The pattern in hand, the cursor, and the node behind the pattern. */
         private int goal;
         private int cursor;
         private int rest;
@@ -756,7 +767,6 @@ public final class SnowbolFold {
             begunCount = 0;
             nodes.count = 0;
             choices.count = 0;
-            taken.count = 0;
         }
 
         /** Goes back over the way that was found last, if there was one, and on to the next. */
@@ -766,6 +776,16 @@ public final class SnowbolFold {
                 switch (mode) {
                     case BEGIN:
                         mode = begin();
+                        break;
+                    case SINGLE:
+                        mode = goTo(endOfSingle());
+                        break;
+                    case BALANCE:
+                        mode = balance();
+                        break;
+                    case LEAVE_OPEN:
+                        addChoice();
+                        mode = GO_ON;
                         break;
                     case GO_ON:
                         mode = goOn();
@@ -782,7 +802,7 @@ public final class SnowbolFold {
 
         void assignTaken() {
             for (int index = 0; index < taken.count; index++) {
-                capture(taken.one.get(index), taken.two.get(index), taken.three.get(index));
+                capture(taken.first(index), taken.second(index), taken.third(index));
             }
         }
 
@@ -805,10 +825,9 @@ public final class SnowbolFold {
                 return ENDED;
             }
             cursor = start;
-            goal = top;
             rest = NONE;
             taken.count = 0;
-            return BEGIN;
+            return beginPart(top);
         }
 
         private int begin() {
@@ -816,30 +835,28 @@ public final class SnowbolFold {
                 return TOO_MANY;
             }
             begunCount++;
-            int pattern = goal;
-            switch (patterns.kind(pattern)) {
+            switch (patterns.kinds.get(goal)) {
                 case '&':
                 case '$':
                 case '.':
-                    addNode(pattern);
-                    return beginPart(patterns.first(pattern));
+                    addNode();
+                    return beginPart(patterns.firsts.get(goal));
                 case '|':
-                    addChoice(pattern);
-                    return beginPart(patterns.first(pattern));
+                    addChoice();
+                    return beginPart(patterns.firsts.get(goal));
                 case 'g':
                 case '*':
                 case 'f':
-                    addChoice(pattern);
-                    return GO_ON;
+                    return LEAVE_OPEN;
                 case 'x':
-                    return balance(pattern);
+                    return BALANCE;
                 case 'z':
                     return ENDED;
                 case '@':
-                    variables.writeNumber(patterns.first(pattern), cursor);
+                    variables.writeNumber(patterns.firsts.get(goal), cursor);
                     return GO_ON;
                 default:
-                    return goTo(endOfSingle(patterns.kind(pattern), patterns.first(pattern)));
+                    return SINGLE;
             }
         }
 
@@ -847,59 +864,56 @@ public final class SnowbolFold {
             if (rest == NONE) {
                 return FOUND;
             }
-            int pattern = nodes.one.get(rest);
-            int begin = nodes.two.get(rest);
-            rest = nodes.three.get(rest);
-            switch (patterns.kind(pattern)) {
+            goal = nodes.first(rest);
+            int from = nodes.second(rest);
+            rest = nodes.third(rest);
+            switch (patterns.kinds.get(goal)) {
                 case '&':
-                    return beginPart(patterns.second(pattern));
+                    return beginPart(patterns.seconds.get(goal));
                 case '$':
-                    capture(patterns.second(pattern), begin, cursor);
+                    capture(patterns.seconds.get(goal), from, cursor);
                     return GO_ON;
                 case '.':
-                    taken.push(patterns.second(pattern), begin, cursor);
+                    taken.push(patterns.seconds.get(goal), from, cursor);
                     return GO_ON;
                 default:
-                    if (cursor == begin) {
-                        return BACK;
-                    }
-                    addChoice(pattern);
-                    return GO_ON;
+                    return cursor == from ? BACK : LEAVE_OPEN;
             }
         }
 
         private int goBack() {
-            if (choices.count == 0) {
+            if (choices.count <= 0) {
                 return beginAtNextCursor();
             }
             choices.count--;
-            int pattern = choices.one.get(choices.count);
-            cursor = choices.two.get(choices.count);
-            rest = choices.three.get(choices.count);
+            goal = choices.first(choices.count);
+            cursor = choices.second(choices.count);
+            rest = choices.third(choices.count);
             taken.count = takenThen.get(choices.count);
-            switch (patterns.kind(pattern)) {
+            switch (patterns.kinds.get(goal)) {
                 case '|':
-                    return beginPart(patterns.second(pattern));
+                    return beginPart(patterns.seconds.get(goal));
                 case 'g':
-                    addNode(pattern);
-                    return beginPart(patterns.first(pattern));
+                    addNode();
+                    return beginPart(patterns.firsts.get(goal));
                 case '*':
-                    return oneMore(pattern);
+                    cursor++;
+                    return cursor <= length ? LEAVE_OPEN : BACK;
                 case 'x':
-                    return balance(pattern);
+                    return BALANCE;
                 default:
                     return ENDED;
             }
         }
 
-        private void addNode(int pattern) {
-            nodes.push(pattern, cursor, rest);
+        private void addNode() {
+            nodes.push(goal, cursor, rest);
             rest = nodes.count - 1;
         }
 
-        private void addChoice(int pattern) {
+        private void addChoice() {
             takenThen.put(choices.count, taken.count);
-            choices.push(pattern, cursor, rest);
+            choices.push(goal, cursor, rest);
         }
 
         private int beginPart(int pattern) {
@@ -915,17 +929,8 @@ public final class SnowbolFold {
             return GO_ON;
         }
 
-        private int oneMore(int pattern) {
-            if (cursor >= length) {
-                return BACK;
-            }
-            cursor++;
-            addChoice(pattern);
-            return GO_ON;
-        }
-
-        /** Where signs end that are balanced, what stands between two such ends is balanced itself. */
-        private int balance(int pattern) {
+        /** Goes to where balanced signs end next; what stands between two such ends is balanced itself. */
+        private int balance() {
             int open = 0;
             for (int place = cursor; place < length; place++) {
                 int sign = subject.sign(0, place);
@@ -935,24 +940,24 @@ public final class SnowbolFold {
                 }
                 if (open == 0) {
                     cursor = place + 1;
-                    addChoice(pattern);
-                    return GO_ON;
+                    return LEAVE_OPEN;
                 }
             }
             return BACK;
         }
 
-        /** The cursor at which a pattern ends that has one way at most, or NONE. */
-        private int endOfSingle(int kind, int a) {
-            switch (kind) {
+        /** The cursor at which the pattern in hand ends, which has one way at most, or NONE. */
+        private int endOfSingle() {
+            int a = patterns.firsts.get(goal);
+            switch (patterns.kinds.get(goal)) {
                 case 'l':
-                    return endOfRow(texts, a);
+                    return subject.hasThere(0, cursor, texts, a) ? cursor + texts.length(a) : NONE;
                 case 'v':
-                    return endOfRow(variables, a);
+                    return subject.hasThere(0, cursor, variables, a) ? cursor + variables.length(a) : NONE;
                 case 'n':
-                    return cursor < length && isIn(a, cursor) ? cursor + 1 : NONE;
+                    return cursor < length && texts.contains(a, subject.sign(0, cursor)) ? cursor + 1 : NONE;
                 case 'o':
-                    return cursor < length && !isIn(a, cursor) ? cursor + 1 : NONE;
+                    return cursor < length && !texts.contains(a, subject.sign(0, cursor)) ? cursor + 1 : NONE;
                 case 's':
                     return endOfSpan(a);
                 case 'k':
@@ -974,17 +979,9 @@ public final class SnowbolFold {
             }
         }
 
-        private boolean isIn(int text, int place) {
-            return texts.contains(text, subject.sign(0, place));
-        }
-
-        private int endOfRow(Rows rows, int row) {
-            return subject.hasThere(0, cursor, rows, row) ? cursor + rows.length(row) : NONE;
-        }
-
         private int endOfSpan(int text) {
             int end = cursor;
-            while (end < length && isIn(text, end)) {
+            while (end < length && texts.contains(text, subject.sign(0, end))) {
                 end++;
             }
             return end > cursor ? end : NONE;
@@ -992,7 +989,7 @@ public final class SnowbolFold {
 
         private int endOfBreak(int text) {
             int end = cursor;
-            while (end < length && !isIn(text, end)) {
+            while (end < length && !texts.contains(text, subject.sign(0, end))) {
                 end++;
             }
             return end < length ? end : NONE;
@@ -1001,26 +998,36 @@ public final class SnowbolFold {
 
     /** Entries of three numbers, one above the other. */
     private static final class Pile {
-        private final int most;
-        private final Cells one;
-        private final Cells two;
-        private final Cells three;
+        private final int[] firsts;
+        private final int[] seconds;
+        private final int[] thirds;
         private int count;
 
         Pile(int most) {
-            this.most = most;
-            one = new Cells(most);
-            two = new Cells(most);
-            three = new Cells(most);
+            firsts = new int[most < 0 ? 0 : most];
+            seconds = new int[most < 0 ? 0 : most];
+            thirds = new int[most < 0 ? 0 : most];
         }
 
         void push(int first, int second, int third) {
-            if (count < most) {
-                one.put(count, first);
-                two.put(count, second);
-                three.put(count, third);
+            if (count >= 0 && count < firsts.length && count < seconds.length && count < thirds.length) {
+                firsts[count] = first;
+                seconds[count] = second;
+                thirds[count] = third;
                 count++;
             }
+        }
+
+        int first(int entry) {
+            return entry >= 0 && entry < firsts.length ? firsts[entry] : 0;
+        }
+
+        int second(int entry) {
+            return entry >= 0 && entry < seconds.length ? seconds[entry] : 0;
+        }
+
+        int third(int entry) {
+            return entry >= 0 && entry < thirds.length ? thirds[entry] : 0;
         }
     }
 
@@ -1041,9 +1048,10 @@ public final class SnowbolFold {
         /** SUCCEEDS with the value in the term's row of the values, or FAILS, or the number of an error. */
         int workOut(int term) {
             markNeeded(term);
-            for (int number = 0; number <= term; number++) {
+            for (int number = 0; number <= term && number < MOST_TERMS; number++) {
                 if (needed.get(number) == 1) {
-                    int outcome = workOne(number);
+                    values.clear(number);
+                    int outcome = isOfNumbers(terms.kinds.get(number)) ? reckon(number) : form(number);
                     if (outcome != SUCCEEDS) {
                         return outcome;
                     }
@@ -1056,33 +1064,73 @@ public final class SnowbolFold {
             needed.clearAll();
             needed.put(term, 1);
             for (int number = term; number >= 0; number--) {
-                if (needed.get(number) == 1) {
-                    markParts(number);
+                int kind = terms.kinds.get(number);
+                if (needed.get(number) == 1 && kind != 't' && kind != 'v') {
+                    needed.put(terms.firsts.get(number), 1);
+                    if (kind != 'w' && kind != '#' && kind != 'r') {
+                        needed.put(terms.seconds.get(number), 1);
+                    }
                 }
             }
         }
 
-        private void markParts(int number) {
-            switch (terms.kind(number)) {
-                case 't':
-                case 'v':
-                    break;
-                case 'w':
-                case '#':
-                case 'r':
-                    needed.put(terms.first(number), 1);
-                    break;
-                default:
-                    needed.put(terms.first(number), 1);
-                    needed.put(terms.second(number), 1);
-            }
+        private static boolean isOfNumbers(int kind) {
+            return kind == '+' || kind == '-' || kind == '*' || kind == '/' || kind == '<' || kind == 'd';
         }
 
-        private int workOne(int number) {
-            int a = terms.first(number);
-            int b = terms.second(number);
-            values.clear(number);
-            switch (terms.kind(number)) {
+        private int reckon(int number) {
+            int kind = terms.kinds.get(number);
+            int a = terms.firsts.get(number);
+            long left = kind == 'd' ? 0 : values.readNumber(a);
+            long right = values.readNumber(terms.seconds.get(number));
+            if (left == NO_NUMBER || right == NO_NUMBER) {
+                return ERROR_NUMBER;
+            }
+            long value = 0;
+            switch (kind) {
+                case '+':
+                    value = left + right;
+                    break;
+                case '-':
+                    value = left - right;
+                    break;
+                case '*':
+                    value = left * right;
+                    break;
+                case '/':
+                    if (right == 0) {
+                        return ERROR_DIVISION;
+                    }
+                    value = left / right;
+                    break;
+                case '<':
+                    return left < right ? SUCCEEDS : FAILS;
+                default:
+                    return formRepeated(number, a, right);
+            }
+            if (value > MOST_NUMBER || value < -MOST_NUMBER) {
+                return ERROR_NUMBER;
+            }
+            values.writeNumber(number, value);
+            return SUCCEEDS;
+        }
+
+        private int formRepeated(int number, int a, long often) {
+            if (often < 0 || often > MOST_SIGNS) {
+                return ERROR_NUMBER;
+            }
+            for (int time = 0; time < often; time++) {
+                if (!values.append(number, values, a, 0, values.length(a))) {
+                    return ERROR_LONG;
+                }
+            }
+            return SUCCEEDS;
+        }
+
+        private int form(int number) {
+            int a = terms.firsts.get(number);
+            int b = terms.seconds.get(number);
+            switch (terms.kinds.get(number)) {
                 case 't':
                     values.copy(number, texts, a);
                     return SUCCEEDS;
@@ -1090,7 +1138,12 @@ public final class SnowbolFold {
                     values.copy(number, variables, a);
                     return SUCCEEDS;
                 case 'w':
-                    return workNamed(number, a);
+                    int variable = variableNamed(a);
+                    if (variable == NONE) {
+                        return ERROR_NAME;
+                    }
+                    values.copy(number, variables, variable);
+                    return SUCCEEDS;
                 case '&':
                     return values.appendAll(number, values, a) && values.appendAll(number, values, b)
                             ? SUCCEEDS : ERROR_LONG;
@@ -1098,71 +1151,23 @@ public final class SnowbolFold {
                     values.writeNumber(number, values.length(a));
                     return SUCCEEDS;
                 case 'r':
-                    return workBackward(number, a);
-                case 'd':
-                    return workRepeated(number, a, b);
-                case '=':
-                    return values.isSame(a, b) ? SUCCEEDS : FAILS;
+                    formBackward(number, a);
+                    return SUCCEEDS;
                 default:
-                    return workNumbers(number, a, b);
+                    return values.length(a) == values.length(b) && values.hasThere(a, 0, values, b)
+                            ? SUCCEEDS : FAILS;
             }
         }
 
-        private int workNamed(int number, int a) {
+        private int variableNamed(int a) {
             int variable = values.sign(a, 0) - 'a';
-            if (values.length(a) != 1 || !isBelow(variable, VARIABLES)) {
-                return ERROR_NAME;
-            }
-            values.copy(number, variables, variable);
-            return SUCCEEDS;
+            return values.length(a) == 1 && isBelow(variable, VARIABLES) ? variable : NONE;
         }
 
-        private int workBackward(int number, int a) {
+        private void formBackward(int number, int a) {
             for (int place = values.length(a) - 1; place >= 0; place--) {
                 values.add(number, values.sign(a, place));
             }
-            return SUCCEEDS;
-        }
-
-        private int workRepeated(int number, int a, int b) {
-            long often = values.readNumber(b);
-            if (often < 0 || often > MOST_SIGNS) {
-                return ERROR_NUMBER;
-            }
-            for (int time = 0; time < often; time++) {
-                if (!values.appendAll(number, values, a)) {
-                    return ERROR_LONG;
-                }
-            }
-            return SUCCEEDS;
-        }
-
-        private int workNumbers(int number, int a, int b) {
-            long left = values.readNumber(a);
-            long right = values.readNumber(b);
-            if (left == NO_NUMBER || right == NO_NUMBER) {
-                return ERROR_NUMBER;
-            }
-            switch (terms.kind(number)) {
-                case '+':
-                    return giveNumber(number, left + right);
-                case '-':
-                    return giveNumber(number, left - right);
-                case '*':
-                    return giveNumber(number, left * right);
-                case '/':
-                    return right == 0 ? ERROR_DIVISION : giveNumber(number, left / right);
-                default:
-                    return left < right ? SUCCEEDS : FAILS;
-            }
-        }
-
-        private int giveNumber(int number, long value) {
-            if (value > MOST_NUMBER || value < -MOST_NUMBER) {
-                return ERROR_NUMBER;
-            }
-            values.writeNumber(number, value);
-            return SUCCEEDS;
         }
     }
 
@@ -1170,7 +1175,6 @@ public final class SnowbolFold {
     private static final class Program {
         static final int NEXT = -1;
         static final int BACK_WITH_SUCCESS = -2;
-        static final int BACK_WITH_FAILURE = -3;
         static final int THE_END = -4;
 
         private final Cells kinds = new Cells(MOST_STATEMENTS);
@@ -1251,7 +1255,21 @@ public final class SnowbolFold {
             failedOften.clearAll();
             int place = first;
             for (int step = 0; step < most; step++) {
-                place = doStatement(place);
+                last = place;
+                steps++;
+                doneOften.increase(place);
+                int outcome;
+                switch (program.kinds.get(place)) {
+                    case 'a':
+                        outcome = doAssignment(place);
+                        break;
+                    case 's':
+                        outcome = doScan(place);
+                        break;
+                    default:
+                        outcome = doCall(place);
+                }
+                place = placeBehind(place, outcome);
                 if (place == END) {
                     return 'd';
                 }
@@ -1262,12 +1280,8 @@ public final class SnowbolFold {
             return 'l';
         }
 
-        /** Answers the statement to go on at, or END, or BROKEN. */
-        private int doStatement(int statement) {
-            last = statement;
-            steps++;
-            doneOften.increase(statement);
-            int outcome = outcomeOf(statement);
+        /** The statement to go on at, or END, or BROKEN. */
+        private int placeBehind(int statement, int outcome) {
             if (outcome > 0) {
                 return breakOff(outcome);
             }
@@ -1275,17 +1289,6 @@ public final class SnowbolFold {
                 return placeOf(program.entries.get(program.parts.get(statement)));
             }
             return leave(statement, outcome == SUCCEEDS);
-        }
-
-        private int outcomeOf(int statement) {
-            switch (program.kinds.get(statement)) {
-                case 'a':
-                    return doAssignment(statement);
-                case 's':
-                    return doScan(statement);
-                default:
-                    return doCall(statement);
-            }
         }
 
         private int doAssignment(int statement) {
@@ -1309,10 +1312,9 @@ public final class SnowbolFold {
             }
             matcher.assignTaken();
             int term = program.terms.get(statement);
-            return term == NONE ? SUCCEEDS : replaceBy(term, variable);
-        }
-
-        private int replaceBy(int term, int variable) {
+            if (term == NONE) {
+                return SUCCEEDS;
+            }
             int outcome = reckoner.workOut(term);
             if (outcome != SUCCEEDS) {
                 return outcome;

@@ -11,6 +11,7 @@ public final class MatchTest {
         rowsAndAlternatives();
         fences();
         assignments();
+        goneBackOver();
         lastMatch();
         tooMany();
         manyWays();
@@ -213,6 +214,41 @@ public final class MatchTest {
         CHECK.due("from", x.from(), 2);
         CHECK.due("what it took", Check.value(x, 'f'), "c");
         waysAssign();
+    }
+
+    /** What was taken and gone back over is not assigned. */
+    private static void goneBackOver() {
+        SnowbolFold x = new SnowbolFold();
+        Check.text(x, "b");
+        x.pattern('l', 0, 0);
+        x.pattern('#', 2, 0);
+        x.pattern('.', 1, 1);
+        x.pattern('p', 1, 0);
+        x.pattern('|', 3, 2);
+        x.pattern('&', 4, 0);
+        Check.type(x, "aba");
+        CHECK.due("at the next cursor", x.match(5), true);
+        CHECK.due("from", x.from(), 1);
+        CHECK.due("nothing of the cursor before", Check.value(x, 'b'), "");
+        x.pattern('&', 2, 0);
+        x.pattern('#', 1, 0);
+        x.pattern('|', 6, 7);
+        CHECK.due("the other one", x.match(8), true);
+        CHECK.due("to", x.to(), 1);
+        CHECK.due("nothing of the first one", Check.value(x, 'b'), "");
+        x.pattern('*', 0, 0);
+        x.pattern('.', 9, 2);
+        x.pattern('&', 10, 0);
+        CHECK.due("one more each time", x.match(11), true);
+        CHECK.due("what it took at last", Check.value(x, 'c'), "a");
+        x.pattern('.', 7, 3);
+        x.pattern('&', 12, 0);
+        x.pattern('g', 12, 0);
+        x.pattern('&', 14, 13);
+        x.pattern('&', 15, 7);
+        Check.type(x, "cdbe");
+        CHECK.due("once more each time", x.match(16), true);
+        CHECK.due("what was taken behind", Check.value(x, 'd'), "d");
     }
 
     private static void waysAssign() {

@@ -104,7 +104,7 @@ public final class OracleTest {
         String all = "l|&nosk#trpqm*gxfzi$.@v";
         String kinds = often(50) ? "|&g$.&|" : often(30) ? "l*xvnosk@" : all;
         if (leaning == 1 && often(85)) {
-            kinds = often(50) ? "&&&&g|" : "*xno*#f$.iq";
+            kinds = often(50) ? "&&&g||" : "*xno*#f$...iq";
         }
         char kind = often(1) ? (char) below(300) : kinds.charAt(below(kinds.length()));
         int a;
@@ -282,7 +282,7 @@ public final class OracleTest {
         for (Method method : Oracle.class.getDeclaredMethods()) {
             TOLD.put(method.getName(), method);
         }
-        int runs = args.length > 0 ? Integer.parseInt(args[0]) : 3000;
+        int runs = args.length > 0 ? Integer.parseInt(args[0]) : 12000;
         boolean[] fine = {true};
         // The oracle is recursive, each pattern begun takes some frames.
         Thread thread = new Thread(null, () -> compareAll(runs, fine), "oracle", 1L << 30);
