@@ -16,7 +16,7 @@ public final class SnowbolFold {
     private static final int MOST_WAYS = 200;
     private static final int MOST_DIGITS = 9;
     private static final long MOST_NUMBER = 999999999L;
-    private static final long NO_NUMBER = Long.MIN_VALUE;
+    private static final long NO_NUMBER = -1000000000000L;
     private static final int NONE = -1;
 
     private static final String PATTERN_KINDS = "l|&nosk#trpqm*gxfzi$.@v";
@@ -573,17 +573,15 @@ public final class SnowbolFold {
             }
         }
 
-        boolean add(int row, int sign) {
+        void add(int row, int sign) {
             if (row < 0 || row >= sizes.length || sizes[row] >= width) {
-                return false;
+                return;
             }
             int index = row * width + sizes[row];
-            if (index < 0 || index >= signs.length) {
-                return false;
+            if (index >= 0 && index < signs.length) {
+                signs[index] = sign;
+                sizes[row]++;
             }
-            signs[index] = sign;
-            sizes[row]++;
-            return true;
         }
 
         /** Adds the signs of another row from a place up to an end, if they all have room; answers whether so. */
