@@ -29,6 +29,7 @@ public final class PatternEdgesTest {
         whereItBegins();
         begun();
         begunAtMost();
+        dearMatchesAgain();
         waysUpTo200();
         waysOfNothing();
         firstIsThatOfAllWays();
@@ -564,6 +565,38 @@ public final class PatternEdgesTest {
         CHECK.due("begun", x.begun(), 3000);
         int later = x.pattern('.', late, 0);
         CHECK.dueThrow("as the 3001st would be", ArithmeticException.class, () -> x.match(later));
+    }
+
+    /** A match has its 3000 whatever was begun by matches, ways and scans ahead of it. */
+    private static void dearMatchesAgain() {
+        SnowbolFold x = new SnowbolFold();
+        int deep = x.pattern('#', 0, 0);
+        for (int number = 1; number < 40; number++) {
+            deep = x.pattern(number % 3 == 0 ? '$' : number % 3 == 1 ? '.' : '|', deep, 0);
+        }
+        int dear = deep;
+        int never = x.pattern('i', 0, 0);
+        int vain = x.pattern('&', dear, never);
+        x.term('v', 1, 0);
+        x.scan(1, vain, -1, 0, 0);
+        x.scan(1, dear, -1, 1, 1);
+        Check.give(x, 'b', "z".repeat(60));
+        x.anchor(true);
+        Check.type(x, "z".repeat(60));
+        CHECK.due("in vain", x.match(vain), false);
+        int begun = x.begun();
+        CHECK.due("dear", begun > 2 * 13, true);
+        for (int time = 0; time < 60; time++) {
+            CHECK.due("in vain again", x.match(vain), false);
+            CHECK.due("begun again", x.begun(), begun);
+            CHECK.due("no ways again", x.ways(vain), 0);
+        }
+        CHECK.due("scans in vain, again and again", x.run(0, 1000), 'l');
+        CHECK.due("all fail", x.failed(0), 1000);
+        CHECK.due("scans, again and again", x.run(1, 1000), 'l');
+        CHECK.due("none fails", x.failed(1), 0);
+        CHECK.due("a match behind that", x.match(dear), true);
+        CHECK.due("begun", x.begun(), 40);
     }
 
     /** ... up to 200; nothing is assigned but at once. */
