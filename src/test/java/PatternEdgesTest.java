@@ -23,7 +23,9 @@ public final class PatternEdgesTest {
         alternativesAndRows();
         fences();
         atOnce();
+        atOnceAlone();
         atTheEnd();
+        nothingAtTheEnd();
         cursorsAssigned();
         valuesThen();
         whereItBegins();
@@ -31,6 +33,7 @@ public final class PatternEdgesTest {
         begunAtMost();
         dearMatchesAgain();
         waysUpTo200();
+        begunByAllWays();
         waysOfNothing();
         firstIsThatOfAllWays();
         lastMatch();
@@ -382,6 +385,23 @@ public final class PatternEdgesTest {
         CHECK.due("what is typed stays", Check.typed(x), "xy");
     }
 
+    /** ... at once, and not once more as the match is over. */
+    private static void atOnceAlone() {
+        SnowbolFold x = new SnowbolFold();
+        int one = x.pattern('#', 1, 0);
+        int atOnce = x.pattern('$', one, 0);
+        int here = x.pattern('@', 0, 0);
+        matches(x, x.pattern('&', atOnce, here), "xy");
+        CHECK.due("the cursor behind it", Check.value(x, 'a'), "1");
+        matches(x, x.pattern('&', here, atOnce), "xy");
+        CHECK.due("the sign behind the cursor", Check.value(x, 'a'), "x");
+        int late = x.pattern('.', one, 0);
+        matches(x, x.pattern('&', late, atOnce), "xy");
+        CHECK.due("at the end behind at once", Check.value(x, 'a'), "x");
+        matches(x, x.pattern('&', late, here), "xy");
+        CHECK.due("at the end behind the cursor", Check.value(x, 'a'), "x");
+    }
+
     /** '.' ... as the match is over and succeeds, in the order in which they were taken, inner ones first. */
     private static void atTheEnd() {
         SnowbolFold x = new SnowbolFold();
@@ -418,6 +438,33 @@ public final class PatternEdgesTest {
         CHECK.due("at the end", Check.value(x, 'd'), "x");
         Check.give(x, 'd', "x");
         CHECK.due("ways assign nothing", x.ways(seen), 0);
+    }
+
+    /** ... as the match is over and succeeds: one that fails, however it does, assigns nothing so. */
+    private static void nothingAtTheEnd() {
+        SnowbolFold x = new SnowbolFold();
+        int taken = x.pattern('.', x.pattern('m', 0, 0), 0);
+        int none = x.pattern('.', x.pattern('#', 0, 0), 0);
+        int never = x.pattern('i', 0, 0);
+        int fence = x.pattern('f', 0, 0);
+        int[] behind = {never, x.pattern('z', 0, 0), x.pattern('&', fence, never)};
+        x.term('v', 0, 0);
+        for (int last : behind) {
+            for (int first : new int[] {taken, none}) {
+                int fails = x.pattern('&', first, last);
+                Check.give(x, 'a', "before");
+                for (boolean is : new boolean[] {false, true, false}) {
+                    x.anchor(is);
+                    CHECK.due("a match that fails", matches(x, fails, "xy"), false);
+                    CHECK.due("nothing is assigned", Check.value(x, 'a'), "before");
+                    int scan = x.scan(1, fails, 0, -4, -4);
+                    Check.give(x, 'b', "xy");
+                    x.run(scan, 1);
+                    CHECK.due("a scan that fails", x.failed(scan), 1);
+                    CHECK.due("nothing is assigned by it", Check.value(x, 'a') + Check.value(x, 'b'), "beforexy");
+                }
+            }
+        }
     }
 
     /** '@' nothing, the cursor becomes the value of the variable a at once. */
@@ -631,6 +678,35 @@ public final class PatternEdgesTest {
             CHECK.due("one way more", x.ways(marked), 200);
             CHECK.due("not gone on to behind 200", x.size(0), count >= 200 ? 0 : 1);
         }
+    }
+
+    /** All ways are found by one match that is gone back over, so its 3000 are those of all ways together. */
+    private static void begunByAllWays() {
+        SnowbolFold x = new SnowbolFold();
+        int none = x.pattern('#', 0, 0);
+        int row = none;
+        for (int number = 0; number < 8; number++) {
+            row = x.pattern('&', row, none);
+        }
+        // each way begins the 17 of the row, each cursor begins 2 ahead of that
+        int many = x.pattern('&', x.pattern('*', 0, 0), row);
+        Check.type(x, SIXTY.substring(0, 18));
+        CHECK.due("the first one", x.match(many), true);
+        CHECK.due("begun", x.begun(), 19);
+        x.anchor(true);
+        CHECK.due("19 ways", x.ways(many), 19);
+        x.anchor(false);
+        Check.type(x, "ab");
+        CHECK.due("6 ways", x.ways(many), 6);
+        Check.type(x, SIXTY.substring(0, 16));
+        CHECK.due("153 ways, 2635 begun", x.ways(many), 153);
+        Check.type(x, SIXTY.substring(0, 17));
+        CHECK.due("171 ways, 2943 begun", x.ways(many), 171);
+        Check.type(x, SIXTY.substring(0, 18));
+        CHECK.dueThrow("190 ways, 3268 begun", ArithmeticException.class, () -> x.ways(many));
+        CHECK.dueThrow("a way of them", ArithmeticException.class, () -> x.way(many, 0));
+        CHECK.due("a match has its first way alone", x.match(many), true);
+        CHECK.due("begun", x.begun(), 19);
     }
 
     private static void waysOfNothing() {

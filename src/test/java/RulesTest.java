@@ -4,7 +4,9 @@ import java.lang.reflect.Method;
 import java.lang.reflect.Modifier;
 import java.nio.file.Files;
 import java.nio.file.Path;
+import java.util.ArrayList;
 import java.util.Arrays;
+import java.util.List;
 import java.util.Set;
 import java.util.TreeSet;
 import java.util.regex.Matcher;
@@ -67,6 +69,20 @@ public final class RulesTest {
             CHECK.due("static " + inside, Modifier.isStatic(inside.getModifiers()), true);
             for (Method method : inside.getDeclaredMethods()) {
                 CHECK.due("the name " + method.getName() + " is free", names.contains(method.getName()), false);
+            }
+        }
+        List<Class<?>> classes = new ArrayList<>(List.of(SnowbolFold.class.getDeclaredClasses()));
+        classes.add(SnowbolFold.class);
+        for (Class<?> one : classes) {
+            long fields = Arrays.stream(one.getDeclaredFields())
+                    .filter(field -> !Modifier.isStatic(field.getModifiers())).count();
+            CHECK.due("few fields of " + one, fields <= 20, true);
+            for (Field field : one.getDeclaredFields()) {
+                boolean isConstant = Modifier.isFinal(field.getModifiers());
+                CHECK.due("no state of its own in " + one, !Modifier.isStatic(field.getModifiers()) || isConstant, true);
+            }
+            for (Method method : one.getDeclaredMethods()) {
+                CHECK.due("few parameters of " + method, method.getParameterCount() <= 7, true);
             }
         }
         CHECK.due("few classes", SnowbolFold.class.getDeclaredClasses().length <= 12, true);

@@ -17,6 +17,7 @@ public final class RunEdgesTest {
         scansReplace();
         scansAssign();
         termsOfScans();
+        assignedAheadOfErrors();
         errorsOfEachKind();
         fiveFunctions();
         savedAndPutBack();
@@ -353,6 +354,33 @@ public final class RunEdgesTest {
         CHECK.due("replaced", Check.value(x, 'a'), "b");
         CHECK.due("it fails by that now", run(x, 0, 9), "d- 1 0 0: 1/1");
         CHECK.due("not replaced", Check.value(x, 'a'), "b");
+    }
+
+    /** An error ends the run; what was assigned up to it is not put back. */
+    private static void assignedAheadOfErrors() {
+        SnowbolFold x = machine();
+        x.pattern('#', 1, 0);
+        x.pattern('$', 0, 1);
+        x.pattern('.', 1, 2);
+        x.pattern('@', 3, 0);
+        x.pattern('&', 2, 3);
+        x.term('v', 25, 0);
+        x.scan(0, 4, 6, -4, -4);
+        Check.give(x, 'a', "y" + "z".repeat(59));
+        Check.give(x, 'z', "yy");
+        CHECK.due("too long", run(x, 0, 9), "x4 1 0 0: 1/0");
+        CHECK.due("nothing is replaced", Check.value(x, 'a'), "y" + "z".repeat(59));
+        CHECK.due("what was assigned", Check.value(x, 'b') + Check.value(x, 'c') + Check.value(x, 'd'), "yy1");
+        x.pattern('*', 0, 0);
+        x.pattern('$', 5, 1);
+        x.pattern('i', 0, 0);
+        x.pattern('&', 6, 7);
+        x.pattern('.', 5, 2);
+        x.pattern('&', 9, 8);
+        x.scan(0, 10, -1, -4, -4);
+        CHECK.due("too many begun", run(x, 1, 9), "x3 1 1 0: 0/0 1/0");
+        CHECK.due("at once", x.size(1) > 1, true);
+        CHECK.due("not at the end", Check.value(x, 'c'), "y");
     }
 
     /** A statement that is an error is done, and a step. An error ends the run. */
